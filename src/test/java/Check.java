@@ -41,6 +41,10 @@ final class Check {
         return wrong > 0;
     }
 
+    int wrong() {
+        return wrong;
+    }
+
     /** Ends the program with exit code 1 if an answer was wrong. */
     void end() {
         System.out.println(looked + " answers looked at, " + wrong + " wrong");

@@ -49,7 +49,7 @@ public final class ModelTest {
             }
         } else if (kind == 1) {
             int toClass = random.nextInt(4);
-            int quantum = 1 + random.nextInt(mostQuantum);
+            int quantum = random.nextInt(4) == 0 ? mostQuantum : 1 + random.nextInt(mostQuantum);
             name = "kind(" + queue + ", " + toClass + ", " + quantum + ")";
             model.kind(queue, toClass, quantum);
             x.kind(queue, toClass, quantum);
@@ -60,15 +60,40 @@ public final class ModelTest {
         } else if (kind == 3 && random.nextInt(4) == 0) {
             name = "empty(" + queue + ")";
             check.due(name, x.empty(queue), model.empty(queue));
+        } else if (kind == 3) {
+            name = "wrong inputs";
+            wrongInputs(random, x, queue);
         } else if (kind < 7) {
             name = "serve()";
             check.due(name, x.serve(), model.serve());
         } else {
             int word = random.nextInt();
-            int cost = 1 + random.nextInt(mostCost);
+            int cost = random.nextInt(8) == 0 ? mostCost : 1 + random.nextInt(mostCost);
             name = "push(" + queue + ", " + word + ", " + cost + ")";
             check.due(name, x.push(queue, word, cost), model.push(queue, word, cost));
         }
         return name;
+    }
+
+    /** None of them may change anything: the model is not told of them. */
+    private void wrongInputs(Random random, SharedQueues x, int queue) {
+        int noQueue = random.nextBoolean() ? -1 - random.nextInt(20) : 12 + random.nextInt(20);
+        int above = 1 + random.nextInt(20);
+        check.illegal("quota", () -> x.quota(queue, 96 + above, 0));
+        check.illegal("quota", () -> x.quota(queue, 96, -above));
+        check.illegal("quota", () -> x.quota(noQueue, 96, 0));
+        check.illegal("kind", () -> x.kind(queue, 3 + above, 1));
+        check.illegal("kind", () -> x.kind(queue, 0, 1 - above));
+        check.illegal("kind", () -> x.kind(noQueue, 0, 1));
+        check.illegal("push", () -> x.push(queue, 1, 2000 + above));
+        check.illegal("push", () -> x.push(queue, 1, 1 - above));
+        check.illegal("push", () -> x.push(noQueue, 1, 1));
+        check.illegal("serveUpTo", () -> x.serveUpTo(-above));
+        check.illegal("serveUpTo", () -> x.serveUpTo(100000 + above));
+        check.illegal("empty", () -> x.empty(noQueue));
+        check.illegal("told", () -> x.told(queue, 12 + above));
+        check.illegal("item", () -> x.item(queue, 0, 1 + above));
+        check.outOfBounds("item", () -> x.item(queue, x.told(queue, 0), 0));
+        check.illegal("all", () -> x.all(6 + above));
     }
 }

@@ -1,56 +1,12 @@
-import java.util.Arrays;
-
 /** Each promise of the document: ordinary inputs, its edges, and wrong inputs that change nothing. */
-public final class PromisesTest {
-    private static final int MIN = Integer.MIN_VALUE, MAX = Integer.MAX_VALUE;
-    private static final int[] NO_QUEUES = {-1, 12, MIN, MAX};
-
-    private final Check check = new Check();
-
+public final class PromisesTest extends Cases {
     public static void main(String[] args) {
-        PromisesTest t = new PromisesTest();
-        t.newObject();
-        t.quotaSetsAndAnswersAllKept();
-        t.quotaRefusesWrongInputs();
-        t.quotaLeavesItems();
-        t.kindSetsClassAndQuantum();
-        t.kindRefusesWrongInputs();
-        t.kindMovesToTheEndOfTheOtherRing();
-        t.kindOfTheSameClassKeepsPlaceAndTurn();
-        t.kindOfAQueueWithoutItemsJoinsNoRing();
-        t.pushPutsBehind();
-        t.pushRefusesWrongInputs();
-        t.pushAnswersOver();
-        t.pushKeepsCellsForOthers();
-        t.pushTakesFromTheGreatestExcess();
-        t.pushNeedsALeadOfTwo();
-        t.pushTakesTheOnlyItem();
-        t.pushTakesWhereOpenCellsAreBelowNone();
-        t.serveGoesByClassesAndTurns();
-        t.serveKeepsTheDeficit();
-        t.serveOfGreatCostBySmallQuantum();
-        t.serveOfNone();
-        t.nextChangesNothing();
-        t.wordIsTheLastServed();
-        t.serveUpToStopsAtTheFirstAbove();
-        t.serveUpToLeavesTurnsOfTheUnserved();
-        t.serveUpToRefusesWrongInputs();
-        t.emptyTakesAllItems();
-        t.emptyRefusesWrongInputs();
-        t.toldOfAQueue();
-        t.toldRefusesWrongInputs();
-        t.itemTellsWordAndCost();
-        t.itemRefusesWrongInputs();
-        t.itemsGoRoundTheRow();
-        t.allTells();
-        t.allRefusesWrongInputs();
-        t.objectsAreApart();
-        t.check.end();
+        new PromisesTest().runAll();
     }
 
     // Promise 1
 
-    private void newObject() {
+    void newObject() {
         SharedQueues x = new SharedQueues();
         for (int q = 0; q < 12; q++) {
             queueIs("new", x, q, 0, 0, 1, 96, 0, 0, 0, -1, 0, 0, 0, 0, 0);
@@ -62,7 +18,7 @@ public final class PromisesTest {
 
     // Promise 2
 
-    private void quotaSetsAndAnswersAllKept() {
+    void quotaSetsAndAnswersAllKept() {
         SharedQueues x = new SharedQueues();
         check.due("quota(0, 5, 10)", x.quota(0, 5, 10), 10);
         check.due("quota(11, 0, 86)", x.quota(11, 0, 86), 96);
@@ -77,7 +33,7 @@ public final class PromisesTest {
         check.due("quota(0, 96, 96)", x.quota(0, 96, 96), 96);
     }
 
-    private void quotaRefusesWrongInputs() {
+    void quotaRefusesWrongInputs() {
         SharedQueues x = busy();
         int[] before = State.of(x);
         for (int q : NO_QUEUES) {
@@ -91,7 +47,7 @@ public final class PromisesTest {
         unchanged("quota", x, before);
     }
 
-    private void quotaLeavesItems() {
+    void quotaLeavesItems() {
         SharedQueues x = new SharedQueues();
         pushMany(x, 4, 20);
         x.quota(4, 3, 7);
@@ -105,7 +61,7 @@ public final class PromisesTest {
 
     // Promise 3
 
-    private void kindSetsClassAndQuantum() {
+    void kindSetsClassAndQuantum() {
         SharedQueues x = new SharedQueues();
         x.kind(0, 3, 1000);
         x.kind(11, 1, 1);
@@ -116,7 +72,7 @@ public final class PromisesTest {
         check.due("class of 1", x.told(1, 1), 0);
     }
 
-    private void kindRefusesWrongInputs() {
+    void kindRefusesWrongInputs() {
         SharedQueues x = busy();
         int[] before = State.of(x);
         for (int q : NO_QUEUES) {
@@ -131,7 +87,7 @@ public final class PromisesTest {
         unchanged("kind", x, before);
     }
 
-    private void kindMovesToTheEndOfTheOtherRing() {
+    void kindMovesToTheEndOfTheOtherRing() {
         SharedQueues x = new SharedQueues();
         for (int q = 0; q < 4; q++) {
             x.kind(q, q < 3 ? 1 : 2, 10);
@@ -149,7 +105,7 @@ public final class PromisesTest {
         check.due("it comes back to the end", x.told(0, 7), 2);
     }
 
-    private void kindOfTheSameClassKeepsPlaceAndTurn() {
+    void kindOfTheSameClassKeepsPlaceAndTurn() {
         SharedQueues x = new SharedQueues();
         x.kind(0, 0, 5);
         pushCosts(x, 0, 2, 2, 2);
@@ -161,7 +117,7 @@ public final class PromisesTest {
         check.due("deficit", x.told(0, 5), 1);
     }
 
-    private void kindOfAQueueWithoutItemsJoinsNoRing() {
+    void kindOfAQueueWithoutItemsJoinsNoRing() {
         SharedQueues x = new SharedQueues();
         x.kind(7, 2, 3);
         check.due("place", x.told(7, 7), -1);
@@ -175,7 +131,7 @@ public final class PromisesTest {
 
     // Promise 4
 
-    private void pushPutsBehind() {
+    void pushPutsBehind() {
         SharedQueues x = new SharedQueues();
         check.due("push(11, MIN, 1)", x.push(11, MIN, 1), 100);
         check.due("push(11, MAX, 2000)", x.push(11, MAX, 2000), 100);
@@ -188,7 +144,7 @@ public final class PromisesTest {
         check.due("pushed", x.told(11, 8), 2);
     }
 
-    private void pushRefusesWrongInputs() {
+    void pushRefusesWrongInputs() {
         SharedQueues x = busy();
         x.quota(3, 0, 0);
         int[] before = State.of(x);
@@ -202,7 +158,7 @@ public final class PromisesTest {
         unchanged("push", x, before);
     }
 
-    private void pushAnswersOver() {
+    void pushAnswersOver() {
         SharedQueues x = new SharedQueues();
         x.quota(2, 3, 10);
         pushMany(x, 2, 3);
@@ -223,7 +179,7 @@ public final class PromisesTest {
         check.due("96 items are the first quota", y.push(5, 1, 1), -2);
     }
 
-    private void pushKeepsCellsForOthers() {
+    void pushKeepsCellsForOthers() {
         SharedQueues x = new SharedQueues();
         x.quota(0, 96, 10);
         x.quota(1, 96, 20);
@@ -247,7 +203,7 @@ public final class PromisesTest {
         check.due("items of 2", x.told(2, 0), 64);
     }
 
-    private void pushTakesFromTheGreatestExcess() {
+    void pushTakesFromTheGreatestExcess() {
         SharedQueues x = new SharedQueues();
         x.quota(3, 96, 20);
         pushMany(x, 3, 40);
@@ -266,7 +222,7 @@ public final class PromisesTest {
         check.due("3 with most items has less excess", x.told(3, 0), 40);
     }
 
-    private void pushNeedsALeadOfTwo() {
+    void pushNeedsALeadOfTwo() {
         SharedQueues x = new SharedQueues();
         pushMany(x, 0, 49);
         pushMany(x, 1, 47);
@@ -281,7 +237,7 @@ public final class PromisesTest {
         check.due("items of 1", x.told(1, 0), 47);
     }
 
-    private void pushTakesTheOnlyItem() {
+    void pushTakesTheOnlyItem() {
         SharedQueues x = new SharedQueues();
         x.kind(5, 1, 50);
         x.push(5, 77, 40);
@@ -299,7 +255,7 @@ public final class PromisesTest {
         check.due("place of 1", x.told(1, 7), 1);
     }
 
-    private void pushTakesWhereOpenCellsAreBelowNone() {
+    void pushTakesWhereOpenCellsAreBelowNone() {
         SharedQueues x = new SharedQueues();
         pushMany(x, 0, 60);
         x.quota(1, 96, 50);
@@ -316,7 +272,7 @@ public final class PromisesTest {
 
     // Promise 5
 
-    private void serveGoesByClassesAndTurns() {
+    void serveGoesByClassesAndTurns() {
         SharedQueues x = new SharedQueues();
         x.kind(3, 2, 3);
         x.kind(4, 2, 2);
@@ -332,7 +288,7 @@ public final class PromisesTest {
         }
     }
 
-    private void serveKeepsTheDeficit() {
+    void serveKeepsTheDeficit() {
         SharedQueues x = new SharedQueues();
         x.kind(0, 0, 10);
         x.kind(1, 0, 10);
@@ -358,7 +314,7 @@ public final class PromisesTest {
         check.due("served in all", x.all(3), 6);
     }
 
-    private void serveOfGreatCostBySmallQuantum() {
+    void serveOfGreatCostBySmallQuantum() {
         SharedQueues x = new SharedQueues();
         x.kind(2, 0, 7);
         pushCosts(x, 0, 2000, 2000);
@@ -376,7 +332,7 @@ public final class PromisesTest {
         check.due("deficit of 1", x.told(1, 5), 0);
     }
 
-    private void serveOfNone() {
+    void serveOfNone() {
         SharedQueues x = new SharedQueues();
         x.kind(0, 2, 9);
         int[] before = State.of(x);
@@ -386,7 +342,7 @@ public final class PromisesTest {
 
     // Promise 6
 
-    private void nextChangesNothing() {
+    void nextChangesNothing() {
         SharedQueues x = busy();
         for (int i = 0; i < 40; i++) {
             int[] before = State.of(x);
@@ -398,7 +354,7 @@ public final class PromisesTest {
 
     // Promise 7
 
-    private void wordIsTheLastServed() {
+    void wordIsTheLastServed() {
         SharedQueues x = new SharedQueues();
         x.push(0, -5, 1);
         x.push(0, 6, 1);
@@ -418,7 +374,7 @@ public final class PromisesTest {
 
     // Promise 8
 
-    private void serveUpToStopsAtTheFirstAbove() {
+    void serveUpToStopsAtTheFirstAbove() {
         SharedQueues x = new SharedQueues();
         x.kind(0, 0, 1000);
         pushCosts(x, 0, 10, 20, 30, 1);
@@ -440,7 +396,7 @@ public final class PromisesTest {
         check.due("all 96", x.serveUpTo(100000), 96);
     }
 
-    private void serveUpToLeavesTurnsOfTheUnserved() {
+    void serveUpToLeavesTurnsOfTheUnserved() {
         SharedQueues x = new SharedQueues();
         x.kind(0, 0, 4);
         x.kind(1, 0, 4);
@@ -454,7 +410,7 @@ public final class PromisesTest {
         unchanged("serveUpTo of none", x, before);
     }
 
-    private void serveUpToRefusesWrongInputs() {
+    void serveUpToRefusesWrongInputs() {
         SharedQueues x = busy();
         int[] before = State.of(x);
         for (int wrong : new int[] {-1, 100001, MIN, MAX}) {
@@ -465,7 +421,7 @@ public final class PromisesTest {
 
     // Promise 9
 
-    private void emptyTakesAllItems() {
+    void emptyTakesAllItems() {
         SharedQueues x = new SharedQueues();
         x.kind(0, 0, 10);
         pushCosts(x, 0, 3, 4, 5);
@@ -484,7 +440,7 @@ public final class PromisesTest {
         check.due("its costs", x.told(0, 12), 8);
     }
 
-    private void emptyRefusesWrongInputs() {
+    void emptyRefusesWrongInputs() {
         SharedQueues x = busy();
         int[] before = State.of(x);
         for (int q : NO_QUEUES) {
@@ -495,7 +451,7 @@ public final class PromisesTest {
 
     // Promise 10
 
-    private void toldOfAQueue() {
+    void toldOfAQueue() {
         SharedQueues x = new SharedQueues();
         x.quota(8, 40, 30);
         x.kind(8, 1, 50);
@@ -508,7 +464,7 @@ public final class PromisesTest {
         queueIs("9", x, 9, 1, 1, 50, 96, 0, 5, 0, 1, 2, 0, 1, 45, 100);
     }
 
-    private void toldRefusesWrongInputs() {
+    void toldRefusesWrongInputs() {
         SharedQueues x = busy();
         int[] before = State.of(x);
         for (int q : NO_QUEUES) {
@@ -522,7 +478,7 @@ public final class PromisesTest {
 
     // Promise 11
 
-    private void itemTellsWordAndCost() {
+    void itemTellsWordAndCost() {
         SharedQueues x = new SharedQueues();
         x.push(1, -7, 11);
         x.push(1, 8, 12);
@@ -535,7 +491,7 @@ public final class PromisesTest {
         check.due("item(1, 1, 1)", x.item(1, 1, 1), 13);
     }
 
-    private void itemRefusesWrongInputs() {
+    void itemRefusesWrongInputs() {
         SharedQueues x = busy();
         int[] before = State.of(x);
         for (int q : NO_QUEUES) {
@@ -554,7 +510,7 @@ public final class PromisesTest {
         unchanged("item", x, before);
     }
 
-    private void itemsGoRoundTheRow() {
+    void itemsGoRoundTheRow() {
         SharedQueues x = new SharedQueues();
         x.kind(0, 0, 1000);
         pushMany(x, 0, 96);
@@ -574,7 +530,7 @@ public final class PromisesTest {
 
     // Promise 12
 
-    private void allTells() {
+    void allTells() {
         SharedQueues x = new SharedQueues();
         x.quota(0, 96, 10);
         x.quota(1, 2, 0);
@@ -595,7 +551,7 @@ public final class PromisesTest {
         check.due("open below 0", x.all(1) < 0 ? 1 : 0, 1);
     }
 
-    private void allRefusesWrongInputs() {
+    void allRefusesWrongInputs() {
         SharedQueues x = busy();
         int[] before = State.of(x);
         for (int wrong : new int[] {-1, 7, MIN, MAX}) {
@@ -604,63 +560,12 @@ public final class PromisesTest {
         unchanged("all", x, before);
     }
 
-    private void objectsAreApart() {
+    void objectsAreApart() {
         SharedQueues x = busy();
         SharedQueues y = new SharedQueues();
         int[] before = State.of(y);
         x.push(1, 1, 1);
         x.serve();
         unchanged("another object", y, before);
-    }
-
-    /** An object in the midst of its work: kept cells, several classes, deficits, a turn, items lost and refused. */
-    private static SharedQueues busy() {
-        SharedQueues x = new SharedQueues();
-        x.quota(0, 50, 10);
-        x.quota(1, 4, 2);
-        x.quota(2, 96, 5);
-        for (int q = 0; q < 10; q++) {
-            x.kind(q, 1 + q % 3, 1 + 7 * q);
-        }
-        for (int i = 0; i < 130; i++) {
-            x.push(i * i % 10, i, 1 + i * 13 % 60);
-        }
-        for (int i = 0; i < 9; i++) {
-            x.serve();
-        }
-        x.push(0, 5, 5);
-        return x;
-    }
-
-    private static void pushMany(SharedQueues x, int queue, int n) {
-        for (int i = 0; i < n; i++) {
-            x.push(queue, i, i < 96 ? i + 1 : 1);
-        }
-    }
-
-    private static void pushCosts(SharedQueues x, int queue, int... costs) {
-        for (int cost : costs) {
-            x.push(queue, cost, cost);
-        }
-    }
-
-    private void queueIs(String when, SharedQueues x, int queue, int... want) {
-        for (int what = 0; what < want.length; what++) {
-            check.due(when + ": told(" + queue + ", " + what + ")", x.told(queue, what), want[what]);
-        }
-    }
-
-    private void allIs(String when, SharedQueues x, int... want) {
-        for (int what = 0; what < want.length; what++) {
-            check.due(when + ": all(" + what + ")", x.all(what), want[what]);
-        }
-    }
-
-    private void unchanged(String call, SharedQueues x, int[] before) {
-        int[] now = State.of(x);
-        if (!Arrays.equals(now, before)) {
-            System.out.println(call + " changed something: " + State.firstDifference(now, before));
-        }
-        check.due(call + " leaves all as it was (1), or not (0)", Arrays.equals(now, before) ? 1 : 0, 1);
     }
 }
