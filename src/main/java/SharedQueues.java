@@ -358,7 +358,7 @@ public final class SharedQueues {
         }
 
         int firstCost() {
-            return costAt(0);
+            return costRow[start];
         }
 
         void putLast(int word, int cost) {
